@@ -525,6 +525,10 @@ public final class FaithRailsPromisesTest {
         due(21, "farthest in 1 hour", x.farthest(1), 0);
         due(21, "farthest in no hours", x.farthest(0), 0);
         due(20, "fewest before least", x.fewest(6, 60), 0b010);
+        x.need(9, 120);
+        due(20, "all", x.fewest(16, 60), 0b111);
+        x.need(9, 121);
+        due(20, "not even all", x.fewest(16, 60), NONE);
         x.set(TRAIN, 5);
         due(20, "beyond it already", x.fewest(3, 0), 0);
         due(20, "fewest(17, 0)", x.fewest(17, 0), BEYOND);
@@ -573,6 +577,8 @@ public final class FaithRailsPromisesTest {
         due(23, "hours enough", x.persuade(0, 16, 16), 50);
         x.need(2, 99);
         due(23, "gain helps", x.persuade(0, 16, 60), 93);
+        x.set(GAIN, 0);
+        due(23, "the greatest", x.persuade(0, 16, 60), 99);
         x.need(2, 999);
         due(23, "never", x.persuade(0, 3, 60), NONE);
         due(23, "past it on the way", x.persuade(0, 1, 60), 50);
@@ -613,6 +619,8 @@ public final class FaithRailsPromisesTest {
         due(24, "in one hour", z.bears(0, 1), 30);
         // Behind 20 hours both believe 40: the child brings more then than the sceptic brings less.
         due(24, "by sway, later", z.bears(0, 60), 40);
+        z.need(0, 10);
+        due(24, "its own need doesn't count, later", z.bears(0, 60), 40);
         FaithRails many = new FaithRails();
         many.set(NIGHT, 1);
         for (int i = 0; i < 8; i++) {
@@ -675,6 +683,7 @@ public final class FaithRailsPromisesTest {
         sheet(x, 0, 32, -1, -1, 2);
         due(26, "any yard", x.kinds(0, 0), 1 << PROPHET | 1 << BANKER | 1 << SELLER);
         due(27, "any yard", x.beliefs(0, 0), 50);
+        due(28, "any yard", x.least(0, 0), 50);
         sheet(x, 0, 8, 255, 255, 0);
         due(26, "255 of 8 bits", x.kinds(0, 0), 1 << RIDER | 1 << DOUBTER | 1 << CHILD | 1 << SCEPTIC);
         sheet(x, 0, 8, -1, -2);
@@ -694,6 +703,10 @@ public final class FaithRailsPromisesTest {
         sheet(x, 3, 32, 0, 1, 1);
         due(27, "between", x.beliefs(3, 0), 7);
         due(28, "between", x.least(3, 0), 50);
+        x.need(0, 99);
+        sheet(x, 3, 32, 0, 1, 2);
+        due(27, "the greatest alone", x.beliefs(3, 0), 1);
+        due(28, "the greatest alone", x.least(3, 0), 99);
         due(26, "kind still", x.of(0, 0), RIDER);
         due(27, "belief still", x.of(0, 2), 40);
         due(28, "hour still", x.now(0), 0);
@@ -724,6 +737,12 @@ public final class FaithRailsPromisesTest {
         z.person(RIDER, -1);
         due(31, "needs of 0 don't count", z.run(), 0);
         due(29, "all of 0", z.worth(), 0);
+        z.need(7, 1);
+        due(31, "a need of 1 does", z.run(), 1);
+        FaithRails one = new FaithRails();
+        add(one, RIDER, -1, 1);
+        add(one, RIDER, -1, 49);
+        due(31, "one less than the need", one.run(), 1);
         leastOfSeveral();
     }
 
@@ -880,6 +899,15 @@ public final class FaithRailsPromisesTest {
         due(37, "believes 99", y.of(1, 2), 99);
         due(37, "waits at 3", y.of(2, 1), 3);
         due(37, "believes 7", y.of(2, 2), 7);
+        y.set(TRAIN, 9);
+        y.ahead(5);
+        y.set(NIGHT, 1);
+        y.image();
+        y.change(0, 1, 2);
+        due(37, "what it doesn't tell stays", told(y, "gain 5"), 1);
+        due(37, "the train stays", y.now(1), 9);
+        due(37, "the night stays", y.now(5), 1);
+        due(37, "one stays", y.of(0, 1), 2);
         faults();
     }
 
@@ -890,14 +918,16 @@ public final class FaithRailsPromisesTest {
             "gain 21", "loss 21", "gain loss 5", "night 1", "day;", "day ;  ", ";", "day;;day", "day day", "5",
             "Day", "day#", "day\t", "#", "waits 5", "believes 5", "rider;waits 5", "nightday", "day -1",
             "train -1", "gain 99999999999999999999", "gain 00000000000000000020x", "day\u00e9", "train 4294967297",
-            "rider waits 3 believes", "rider waits ;", "need 1 1 ; need 1 x", "day;rider waits 3 waits 3"};
+            "rider waits 3 believes", "rider waits ;", "need 1 1 ; need 1 x", "day;rider waits 3 waits 3",
+            "train", "gain", "loss ", "rider believes", "train;day", "dayz", "hay", "xight", "dat", "waits"};
         int[] at = {0, 3, 0, 0, 11, 12, 12,
             15, 17, 17, 6,
             4, 5, 6, 6, 7, 9, 6, 6,
             5, 5, 5, 6, 4, 7, 0, 4, 4, 0,
             0, 3, 3, 0, 0, 0, 6, 0, 4,
             6, 5, 25, 3, 6,
-            22, 12, 18, 18};
+            22, 12, 18, 18,
+            5, 4, 5, 14, 5, 0, 0, 0, 0, 0};
         for (int i = 0; i < texts.length; i++) {
             FaithRails x = new FaithRails();
             due(37, "\"" + texts[i] + "\"", told(x, texts[i]), -1 - at[i]);
