@@ -1216,7 +1216,48 @@ public final class FaithRailsPromisesTest {
         due(49, "status(min)", x.status(Integer.MIN_VALUE), BEYOND);
     }
 
+    /** As many people, numbers and bytes as there can be. */
+    private static void asMuchAsCanBe() {
+        FaithRails x = new FaithRails();
+        for (int i = 0; i < 8; i++) {
+            add(x, SELLER, -1, 99);
+        }
+        needs(x, 0, 15, 999);
+        // Each has faith of 99 + 20 + 35, less its falls: with all there are 1232.
+        due(3, "SUM of eight", x.stretch(15, 1), 1232);
+        due(5, "FAITH of one of eight", x.of(7, 3), 154);
+        due(10, "go of eight", x.go(16), 16);
+        due(11, "all aboard", x.now(2), 255);
+        due(11, "belief of eight", x.now(6), 792);
+        due(48, "all aboard", x.count(2), 8);
+        due(29, "worth of eight", x.worth(), 16 * 999);
+        due(30, "hangs on the eighth", x.hangs(7), 0);
+        due(31, "two of eight", x.run(), 0b11);
+        due(22, "without at the last yard", x.without(60), 0);
+        x.set(TRAIN, 0);
+        // Seven aboard bring 7 * 149, which is enough; six bring 6 * 144, and those who wait are soon far.
+        due(19, "with eight", x.with(255, 60), 16);
+        due(19, "with too many", x.with(256, 60), BEYOND);
+        due(20, "seven of eight", x.fewest(16, 60), 0b1111111);
+        due(21, "the least of eight", x.farthest(60), 0b1111111);
+        due(18, "kindFor the eighth", x.kindFor(7, 60), RIDER);
+        due(23, "persuade the eighth", x.persuade(7, 16, 60), 0);
+        due(25, "seat of the eighth", x.seat(7, 60), 0);
+        due(13, "believes of the eighth", x.believes(7, 100), 99);
+        x.sheet(3, 32, 40);
+        for (int i = 0; i < 40; i++) {
+            x.write(3, i, Math.min(i, 16));
+        }
+        due(26, "forty yards", x.kinds(3, 7), 127);
+        due(27, "forty yards", x.beliefs(3, 7), 100);
+        due(44, "forty yards", x.judge(3), 0);
+        due(42, "forty numbers", x.copy(3, 0, 3, 0, 40), 40);
+        due(37, "thirty items", told(x, "day;".repeat(29) + "day"), 30);
+        due(37, "no room for a ninth", told(x, "rider"), -1);
+    }
+
     public static void main(String[] args) {
+        asMuchAsCanBe();
         aNewObject();
         need();
         stretch();
