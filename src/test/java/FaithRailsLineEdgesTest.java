@@ -128,8 +128,8 @@ public final class FaithRailsLineEdgesTest {
             e.refused(Edges::full, "person(6, 16)", Edges.FULL, x -> x.person(6, 16));
         });
         e.sentence("4: BEYOND. FULL.: BEYOND is asked first", () -> {
-            e.refused(Edges::full, "person(v, 0)", Edges.BEYOND, (x, v) -> x.person(v, 0), -1, 7, Edges.MIN, Edges.MAX);
-            e.refused(Edges::full, "person(0, v)", Edges.BEYOND, (x, v) -> x.person(0, v), -2, 17, Edges.MIN, Edges.MAX);
+            e.outside(Edges::full, "person(v, 0)", 0, 6, (x, v) -> x.person(v, 0));
+            e.outside(Edges::full, "person(0, v)", -1, 16, (x, v) -> x.person(0, v));
         });
     }
 
@@ -294,8 +294,8 @@ public final class FaithRailsLineEdgesTest {
             e.due("HOUR", x.now(0), 99999);
             e.refused(() -> Edges.atHour(99999), "go(v)", Edges.STATE, (y, v) -> y.go(v), 1, 2, 60);
         });
-        e.sentence("10: BEYOND. STATE.: BEYOND is asked first", () -> e.refused(() -> Edges.atHour(99999), "go(v)",
-                Edges.BEYOND, (x, v) -> x.go(v), 0, -1, 61, Edges.MIN, Edges.MAX));
+        e.sentence("10: BEYOND. STATE.: BEYOND is asked first", () ->
+                e.outside(() -> Edges.atHour(99999), "go(v)", 1, 60, (x, v) -> x.go(v)));
     }
 
     private static void now() {
@@ -374,7 +374,7 @@ public final class FaithRailsLineEdgesTest {
                 Edges.needs(x, 0, 15, 0);
                 return x;
             }, "when(v)", 0, 16, (x, v) -> x.when(v));
-            e.refused(Edges::busy, "when(v)", Edges.BEYOND, (x, v) -> x.when(v), -1, 17, Edges.MIN, Edges.MAX);
+            e.outside(Edges::busy, "when(v)", 0, 16, (x, v) -> x.when(v));
         });
         e.sentence("14: Behind how many HOURS (0 to 100, the fewest)", () -> {
             for (int yard = 0; yard <= 16; yard++) {

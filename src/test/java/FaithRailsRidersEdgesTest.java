@@ -89,7 +89,7 @@ public final class FaithRailsRidersEdgesTest {
     private static void fewest() {
         e.sentence("20: it gets to a YARD (0 to 16)", () -> {
             e.range(() -> open(0), "fewest(v, 60)", 0, 16, (x, v) -> x.fewest(v, 60));
-            e.refused(Edges::busy, "fewest(v, 60)", Edges.BEYOND, (x, v) -> x.fewest(v, 60), -1, 17, Edges.MIN, Edges.MAX);
+            e.outside(Edges::busy, "fewest(v, 60)", 0, 16, (x, v) -> x.fewest(v, 60));
         });
         e.sentence("20: in n (0 to 60) HOURS", () -> {
             hours("fewest(0, v)", (x, v) -> x.fewest(0, v));
@@ -219,8 +219,7 @@ public final class FaithRailsRidersEdgesTest {
                 people("persuade(v, 0, 60)", (x, v) -> x.persuade(v, 0, 60)));
         e.sentence("23: gets to a YARD (0 to 16)", () -> {
             e.range(() -> open(0), "persuade(0, v, 60)", 0, 16, (x, v) -> x.persuade(0, v, 60));
-            e.refused(Edges::busy, "persuade(0, v, 60)", Edges.BEYOND, (x, v) -> x.persuade(0, v, 60),
-                    -1, 17, Edges.MIN, Edges.MAX);
+            e.outside(Edges::busy, "persuade(0, v, 60)", 0, 16, (x, v) -> x.persuade(0, v, 60));
         });
         e.sentence("23: in n (0 to 60) HOURS", () -> {
             hours("persuade(0, 0, v)", (x, v) -> x.persuade(0, 0, v));
@@ -260,7 +259,7 @@ public final class FaithRailsRidersEdgesTest {
     private static void bears() {
         e.sentence("24: NEED of a STRETCH (0 to 15)", () -> {
             e.range(() -> open(0), "bears(v, 60)", 0, 15, (x, v) -> x.bears(v, 60));
-            e.refused(Edges::busy, "bears(v, 60)", Edges.BEYOND, (x, v) -> x.bears(v, 60), -1, 16, Edges.MIN, Edges.MAX);
+            e.outside(Edges::busy, "bears(v, 60)", 0, 15, (x, v) -> x.bears(v, 60));
         });
         e.sentence("24: behind n (0 to 60) HOURS", () -> {
             e.range(() -> open(9), "bears(8, v)", 0, 60, (x, v) -> x.bears(8, v));
@@ -283,6 +282,26 @@ public final class FaithRailsRidersEdgesTest {
                 }
                 e.due("bears(0, 1)", x.bears(0, 1), greatest[i]);
             }
+        });
+        e.sentence("24: The greatest NEED: what it is now doesn't count, what another's is does", () -> {
+            for (int need : new int[] {0, 60, 61, 999}) {
+                e.asked(() -> {
+                    FaithRails x = one(Edges.ABOARD, 60);
+                    x.need(0, need);
+                    return x;
+                }, "bears(0, 60) at a need of " + need, 60, x -> x.bears(0, 60));
+            }
+            // The train could be on the way at once, but bears more if it is kept waiting.
+            e.asked(() -> {
+                FaithRails x = Edges.slow(5);
+                x.need(5, 0);
+                return x;
+            }, "bears(5, 60) at a need of 0", 74, x -> x.bears(5, 60));
+            e.refused(() -> {
+                FaithRails x = one(Edges.ABOARD, 60);
+                x.need(1, 64);
+                return x;
+            }, "bears(2, 60) behind a need of 64", Edges.NONE, x -> x.bears(2, 60));
         });
         e.sentence("24: AT a YARD beyond it", () -> {
             e.asked(() -> open(9), "bears(8, 0)", 999, x -> x.bears(8, 0));
@@ -357,15 +376,8 @@ public final class FaithRailsRidersEdgesTest {
         return x;
     }
 
-    /** The rails are there in the 39th hour: the sheet's 40th number is the first that tells another yard. */
     private static FaithRails fortyYards(int last) {
-        FaithRails x = Edges.slow(5);
-        x.need(5, 68);
-        x.change(1, 2, 98);
-        x.sheet(0, 8, 40);
-        for (int i = 0; i < 39; i++) {
-            x.write(0, i, 5);
-        }
+        FaithRails x = Edges.fortyYards();
         x.write(0, 39, last);
         return x;
     }
@@ -384,8 +396,8 @@ public final class FaithRailsRidersEdgesTest {
 
     private static void doubtRefused(String promise, Doubt doubt) {
         Edges.Scene five = () -> emptySheets(Edges.busy());
-        e.sentence(promise + ": BEYOND: no such sheet", () -> e.refused(five, promise + " of sheet",
-                Edges.BEYOND, (x, v) -> doubt.of(x, v, 0), -1, 4, Edges.MIN, Edges.MAX));
+        e.sentence(promise + ": BEYOND: no such sheet", () ->
+                e.outside(five, promise + " of sheet", 0, 3, (x, v) -> doubt.of(x, v, 0)));
         e.sentence(promise + ": MISSING", () -> {
             e.refused(five, promise + " of sheet", Edges.MISSING, (x, v) -> doubt.of(x, v, 0), 3);
             for (int s = 0; s <= 2; s++) {
@@ -461,6 +473,11 @@ public final class FaithRailsRidersEdgesTest {
             }
             e.asked(() -> told(needing(99), 8, 0, 0), "short", 0, x -> x.least(0, 0));
             e.asked(() -> fortyYards(6), "by 40 numbers", 0, x -> x.least(0, 0));
+        });
+        e.sentence("28: The least of them: (-1: any)", () -> {
+            e.asked(() -> told(needing(50), 8, -1, 1), "any, then on", 50, x -> x.least(0, 0));
+            e.asked(() -> told(needing(50), 8, 0, 255), "on or short", 0, x -> x.least(0, 0));
+            e.refused(() -> told(needing(50), 8, 0, -2), "-2", Edges.NONE, x -> x.least(0, 0));
         });
         e.sentence("28: NONE", () -> {
             e.refused(() -> told(needing(100), 8, 0, 1), "on, at 100", Edges.NONE, x -> x.least(0, 0));
@@ -550,6 +567,13 @@ public final class FaithRailsRidersEdgesTest {
             e.due("both bring as much as is needed", x.run(), 0b11);
             x.need(15, 11);
             e.due("the second is not enough", x.run(), 0b01);
+        });
+        e.sentence("31: none of the STRETCHES: each of them alone", () -> {
+            for (int k = 0; k <= 15; k++) {
+                FaithRails x = bringing(999, 20, 40);
+                x.need(k, 30);
+                e.due("run() of " + k + " alone", x.run(), 0b10);
+            }
         });
         e.sentence("31: that are THERE now: without one there may be more", () -> {
             // 60 less 20 are 40; without the sceptic 60 would be enough for 50, which isn't there now.

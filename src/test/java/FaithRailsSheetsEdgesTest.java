@@ -73,7 +73,7 @@ public final class FaithRailsSheetsEdgesTest {
             for (int kind = 0; kind <= 6; kind++) {
                 int asked = kind;
                 e.asked(() -> one(asked), "as(0, " + kind + ")", 0, x -> x.as(0, asked));
-                e.refused(() -> one(asked), "as(0, v)", Edges.BEYOND, (x, v) -> x.as(0, v), -1, 7, Edges.MIN, Edges.MAX);
+                e.outside(() -> one(asked), "as(0, v)", 0, 6, (x, v) -> x.as(0, v));
             }
         });
         e.sentence("39: MISSING: it holds nothing", () -> {
@@ -166,8 +166,7 @@ public final class FaithRailsSheetsEdgesTest {
 
     private static void write() {
         e.sentence("41: BEYOND: no such sheet", () ->
-                e.refused(Edges::busy, "write(v, 0, 0)", Edges.BEYOND, (x, v) -> x.write(v, 0, 0),
-                        -1, 4, Edges.MIN, Edges.MAX));
+                e.outside(Edges::busy, "write(v, 0, 0)", 0, 3, (x, v) -> x.write(v, 0, 0)));
         e.sentence("41: MISSING", () -> {
             e.refused(Edges::anew, "write(v, 0, 0)", Edges.MISSING, (x, v) -> x.write(v, 0, 0), 0, 1, 2, 3);
             e.refused(() -> {
@@ -325,8 +324,7 @@ public final class FaithRailsSheetsEdgesTest {
     // ---- 43, 44
 
     private static void load() {
-        e.sentence("43: BEYOND: no such sheet", () -> e.refused(Edges::busy, "load(v)", Edges.BEYOND,
-                (x, v) -> x.load(v), -1, 4, Edges.MIN, Edges.MAX));
+        e.sentence("43: BEYOND: no such sheet", () -> e.outside(Edges::busy, "load(v)", 0, 3, (x, v) -> x.load(v)));
         e.sentence("43: MISSING", () -> {
             e.refused(Edges::busy, "load(3)", Edges.MISSING, x -> x.load(3));
             e.due("load(3)", rows().load(3), Edges.MISSING);
@@ -365,20 +363,19 @@ public final class FaithRailsSheetsEdgesTest {
     }
 
     private static void judge() {
-        e.sentence("44: BEYOND: no such sheet", () -> e.refused(Edges::busy, "judge(v)", Edges.BEYOND,
-                (x, v) -> x.judge(v), -1, 4, Edges.MIN, Edges.MAX));
+        e.sentence("44: BEYOND: no such sheet", () -> e.outside(Edges::busy, "judge(v)", 0, 3, (x, v) -> x.judge(v)));
         e.sentence("44: MISSING", () -> {
             e.refused(Edges::busy, "judge(3)", Edges.MISSING, x -> x.judge(3));
             e.refused(Edges::anew, "judge(v)", Edges.MISSING, (x, v) -> x.judge(v), 0, 3);
         });
         e.sentence("44: THE TRAIN's YARDS now and behind each HOUR further on: 0 if so: to the 40th number", () ->
-                e.asked(() -> judged(-1), "judge(0)", 0, x -> x.judge(0)));
+                e.asked(Edges::fortyYards, "judge(0)", 0, x -> x.judge(0)));
         e.sentence("44: else 1 and the place of the first that isn't so: each of the 40", () -> {
             for (int place = 0; place < 40; place++) {
                 int wrong = place;
-                e.asked(() -> judged(wrong), "judge(0) with " + place + " wrong", 1 + place, x -> x.judge(0));
+                e.asked(() -> wrongAt(wrong), "judge(0) with " + place + " wrong", 1 + place, x -> x.judge(0));
             }
-            FaithRails x = judged(7);
+            FaithRails x = wrongAt(7);
             x.write(0, 3, 9);
             x.write(0, 39, 9);
             e.due("judge(0) with three wrong", x.judge(0), 4);
@@ -391,16 +388,9 @@ public final class FaithRailsSheetsEdgesTest {
         });
     }
 
-    /** The train is at yard 5 for 38 hours, and at yard 6 in the 39th; one number may be wrong. */
-    private static FaithRails judged(int wrong) {
-        FaithRails x = Edges.slow(5);
-        x.need(5, 68);
-        x.change(1, 2, 98);
-        x.sheet(0, 8, 40);
-        for (int i = 0; i < 40; i++) {
-            int yard = i < 39 ? 5 : 6;
-            x.write(0, i, i == wrong ? 11 - yard : yard);
-        }
+    private static FaithRails wrongAt(int place) {
+        FaithRails x = Edges.fortyYards();
+        x.write(0, place, place < 39 ? 6 : 5);
         return x;
     }
 

@@ -99,8 +99,8 @@ public final class FaithRailsTextsEdgesTest {
             e.refused(late, "gold(20)", Edges.STATE, y -> y.gold(20));
             e.refused(() -> Edges.atHour(99999), "gold(v)", Edges.STATE, (y, v) -> y.gold(v), 1, 20);
         });
-        e.sentence("32: BEYOND. STATE.: BEYOND is asked first", () -> e.refused(() -> Edges.atHour(99999), "gold(v)",
-                Edges.BEYOND, (x, v) -> x.gold(v), 0, 21, Edges.MIN, Edges.MAX));
+        e.sentence("32: BEYOND. STATE.: BEYOND is asked first", () ->
+                e.outside(() -> Edges.atHour(99999), "gold(v)", 1, 20, (x, v) -> x.gold(v)));
     }
 
     private static void odds() {
@@ -182,8 +182,8 @@ public final class FaithRailsTextsEdgesTest {
             }
             e.refused(Edges::full, "feed(v, 1)", Edges.FULL, (x, v) -> x.feed(v, 1), 0, 32, Edges.MIN, Edges.MAX);
         });
-        e.sentence("35: BEYOND: n. FULL.: BEYOND is asked first", () -> e.refused(Edges::full, "feed(0, v)",
-                Edges.BEYOND, (x, v) -> x.feed(0, v), 0, 5, -1, Edges.MIN, Edges.MAX));
+        e.sentence("35: BEYOND: n. FULL.: BEYOND is asked first", () ->
+                e.outside(Edges::full, "feed(0, v)", 1, 4, (x, v) -> x.feed(0, v)));
     }
 
     private static void wipe() {
@@ -421,6 +421,12 @@ public final class FaithRailsTextsEdgesTest {
             fault("gain x", 5);
             fault("need 1 x", 7);
             fault("rider rider", 6);
+            String[] nearly = {"xeed 0 0", "xrain 0", "xain 0", "xoss 0", "xight", "xay", "xider", "rider xaits 0",
+                "rider xelieves 0", "neex 0 0", "traix 0", "gaix 0", "losx 0", "nighx", "dax", "rider waitx 0",
+                "rider believex 0"};
+            for (String text : nearly) {
+                fault(text, text.startsWith("rider") ? 6 : 0);
+            }
         });
         e.sentence("a byte that begins no TOKEN", () -> {
             fault("#", 0);

@@ -97,6 +97,11 @@ final class Edges {
             act.on(x, v);
             due("findings behind " + call + " of " + v, x.status(-1), findings);
         }
+        outside(scene, call, least, most, act);
+    }
+
+    /** Below least and above most the call is BEYOND. */
+    void outside(Scene scene, String call, int least, int most, CallOf act) {
         refused(scene, call, BEYOND, act, least - 1, most + 1, MIN, MAX);
     }
 
@@ -278,7 +283,20 @@ final class Edges {
         return x;
     }
 
-    /** The document leaves free what is answered behind 512 calls; it is asked so late only for the highest hours. */
+    /** As slow at yard 5, but the rails are there in the 39th hour: sheet 0 tells that by its 40 numbers. */
+    static FaithRails fortyYards() {
+        FaithRails x = slow(5);
+        x.need(5, 68);
+        x.change(1, 2, 98);
+        x.sheet(0, 8, 40);
+        for (int i = 0; i < 39; i++) {
+            x.write(0, i, 5);
+        }
+        x.write(0, 39, 6);
+        return x;
+    }
+
+    /** The document leaves free what is answered behind 512 calls; only so late are there the last hours. */
     static FaithRails atHour(int hour) {
         FaithRails x = new FaithRails();
         for (int left = hour; left > 0; left -= 60) {
