@@ -20,6 +20,8 @@ public final class FaithRails {
     private static final int ABOARD = -1;
     private static final int MOST_PEOPLE = 8;
     private static final int MOST_NEED = 999;
+    /** Far above every SUM: eight people bring less than two hundred each. */
+    private static final int NEED_NEVER_MET = 1000000;
     private static final int MOST_BELIEF = 99;
     private static final int MOST_SHIFT = 20;
     private static final int MOST_HOURS = 99999;
@@ -391,7 +393,7 @@ public final class FaithRails {
     private int greatestSumMet(int stretch, int n) {
         int greatest = -1;
         trial.becomes(line);
-        trial.needs[stretch] = Integer.MAX_VALUE;
+        trial.needs[stretch] = NEED_NEVER_MET;
         for (int hour = 0; hour < n; hour++) {
             if (trial.train == stretch) {
                 greatest = Math.max(greatest, trial.sumAt(stretch));
@@ -1141,7 +1143,7 @@ public final class FaithRails {
         private boolean item(Prairie prairie) {
             int kind = kindNamed();
             if (kind >= 0) {
-                return newcomer(prairie, kind);
+                return personOf(prairie, kind);
             }
             if (isWord("need")) {
                 return needOfStretch(prairie);
@@ -1192,7 +1194,7 @@ public final class FaithRails {
             return kind;
         }
 
-        private boolean newcomer(Prairie prairie, int kind) {
+        private boolean personOf(Prairie prairie, int kind) {
             if (prairie.people >= MOST_PEOPLE) {
                 return false;
             }

@@ -8,8 +8,10 @@ import java.nio.file.Path;
 import java.util.ArrayList;
 import java.util.Arrays;
 import java.util.Collections;
+import java.util.HashMap;
 import java.util.HashSet;
 import java.util.List;
+import java.util.Map;
 import java.util.Set;
 import java.util.regex.Matcher;
 import java.util.regex.Pattern;
@@ -32,7 +34,9 @@ public final class FaithRailsLanguageTest {
     private static final String[] FORBIDDEN = {"\\bthrows?\\b", "\\btry\\b", "\\bcatch\\b", "\\bsynchronized\\b",
         "\\bassert\\b", "->", "::", "\\bvar\\b", "\\bprotected\\b", "\\bThread\\b", "\\bRandom\\b", "\\bMap\\b",
         "\\bObject\\b", "\\bhashCode\\b", "\\btoString\\b", "\\bSystem\\.(?!arraycopy)", "\\bArrays\\.(?!fill|copyOf)",
-        "\\w+Exact\\b", "\\bMath\\.(?!max|min|abs)", "\\bInteger\\.(?!bitCount|MAX_VALUE)", "[^\\x00-\\x7f]"};
+        "\\w+Exact\\b", "\\bMath\\.(?!max|min|abs)", "\\bInteger\\.(?!bitCount)", "[^\\x00-\\x7f]"};
+
+    private static final int DEEPEST = 8;
 
     private static int wrong = 0;
 
@@ -62,9 +66,11 @@ public final class FaithRailsLanguageTest {
         Collections.sort(due);
         Collections.sort(shown);
         must(due.equals(shown), "the face is " + shown);
-        for (Method m : FaithRails.class.getDeclaredMethods()) {
-            must(!Modifier.isPrivate(m.getModifiers()) || !shownNames.contains(m.getName()),
-                    "a private method bears a public name: " + m);
+        for (Class<?> c : FaithRails.class.getNestMembers()) {
+            for (Method m : c.getDeclaredMethods()) {
+                must(Modifier.isPublic(m.getModifiers()) || !shownNames.contains(m.getName()),
+                        "a method inside bears a public name: " + m);
+            }
         }
         for (Field f : FaithRails.class.getDeclaredFields()) {
             must(f.isSynthetic() || Modifier.isPrivate(f.getModifiers()), f + " is seen from outside");
@@ -104,6 +110,8 @@ public final class FaithRailsLanguageTest {
         }
         must(!Pattern.compile("^package", Pattern.MULTILINE).matcher(code).find(), "it has a package");
         methodsAreShort(code);
+        callsEnd(code);
+        objectsAreMadeOnce(code);
     }
 
     private static void methodsAreShort(String code) {
@@ -119,6 +127,46 @@ public final class FaithRailsLanguageTest {
         }
     }
 
+    /** No method calls itself, also not by others; a public call opens at most eight. */
+    private static void callsEnd(String code) {
+        Map<String, String> bodies = new HashMap<>();
+        Matcher heads = Pattern.compile("(?m)^( {4}| {8})(?:public |private |static )*\\w+(?:\\[\\])? (\\w+)\\([^)]*\\) \\{$")
+                .matcher(code);
+        while (heads.find()) {
+            int end = code.indexOf("\n" + heads.group(1) + "}", heads.end());
+            must(bodies.put(heads.group(2), code.substring(heads.end(), end)) == null,
+                    "two methods bear the name " + heads.group(2));
+        }
+        must(bodies.size() > FACE.length, "only " + bodies.size() + " methods are found");
+        for (String call : bodies.keySet()) {
+            must(depth(call, bodies, 1) <= DEEPEST, call + " opens too many calls");
+        }
+    }
+
+    private static int depth(String call, Map<String, String> bodies, int open) {
+        if (open > DEEPEST) {
+            return open;
+        }
+        int deepest = open;
+        Matcher called = Pattern.compile("(\\w+)\\(").matcher(bodies.get(call));
+        while (called.find()) {
+            if (bodies.containsKey(called.group(1))) {
+                deepest = Math.max(deepest, depth(called.group(1), bodies, open + 1));
+            }
+        }
+        return deepest;
+    }
+
+    /** Objects are made with their fields and in the one constructor that fills a row: in no call. */
+    private static void objectsAreMadeOnce(String code) {
+        for (String line : code.split("\n")) {
+            boolean made = line.matches(".*\\bnew\\b.*");
+            boolean once = line.matches("\\s+(private )?final [\\w\\[\\]]+ \\w+ = new [^;]*;")
+                    || line.trim().equals("sheets[s] = new Sheet();");
+            must(!made || once, "a call makes an object: " + line.trim());
+        }
+    }
+
     public static void main(String[] args) throws IOException {
         face();
         fieldsOf(FaithRails.class);
@@ -127,6 +175,7 @@ public final class FaithRailsLanguageTest {
         for (Class<?> c : inside) {
             fieldsOf(c);
         }
+        must(FaithRails.class.getNestMembers().length == inside.length + 1, "a class inside is local or has no name");
         words();
         System.out.println(wrong == 0 ? "the language is kept to" : wrong + " rules are not kept to");
         if (wrong != 0) {
